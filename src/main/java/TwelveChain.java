@@ -1364,7 +1364,10 @@ public final class TwelveChain {
                 for (int k = 0; k < MOST_BYTES && (token == '*' || token == '/'); k++) {
                     int sign = token;
                     lookAt(at + 1);
-                    if (sign == '*' ? !unit() : !divisor()) {
+                    if (sign == '/' && (token != NUMBER || number == 0)) {
+                        return wrong(token == NUMBER ? 2 : 1);
+                    }
+                    if (!unit()) {
                         return false;
                     }
                     law.put(~sign);
@@ -1379,16 +1382,6 @@ public final class TwelveChain {
                 lookAt(at + 1);
             }
             return false;
-        }
-
-        boolean divisor() {
-            if (token == NUMBER && number == 0) {
-                return wrong(2);
-            }
-            if (token != NUMBER) {
-                return wrong(1);
-            }
-            return unit();
         }
 
         boolean unit() {

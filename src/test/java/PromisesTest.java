@@ -594,6 +594,8 @@ public final class PromisesTest {
             y.link(1, 0, 999, 0);
         }
         Due.is("share 9999", y.share(9999, 10), 909);
+        y.link(1, 0, 999, 0);
+        Due.is("share 10000 though all could", y.share(10000, 10), -1);
     }
 
     private static void along() {
@@ -653,7 +655,9 @@ public final class PromisesTest {
         Due.is("none threaten", x.bluff(0, 1000, 0), -1);
         Due.is("none threaten", x.bluff(1000, 0, 1000), -1);
         Due.is("none of those who bluff", x.bluff(500, 0, 1), 0);
-        int[][] bad = {{-1, 1, 1}, {1001, 1, 1}, {1, -1, 1}, {1, 1001, 1}, {1, 1, -1}, {1, 1, 1001}};
+        Due.is("hardly any threaten", x.bluff(1, 1, 0), 1000000);
+        Due.is("all bluff", x.bluff(1000, 5, 0), 1000000);
+        int[][] bad = {{-1, 1, 1}, {1001, 1, 0}, {1, -1, 1}, {1, 1001, 1}, {1, 1, -1}, {1, 1, 1001}};
         for (int[] b : bad) {
             Due.is("bluff that can't be", x.bluff(b[0], b[1], b[2]), -1);
         }

@@ -109,7 +109,12 @@ public final class TextsTest {
         Due.faulty(x, 0, ";", 1, 0);
         Due.faulty(x, 0, " link 5;", 1, 1);
         Due.faulty(x, 0, "Ready 5;", 1, 0);
-        Due.faulty(x, 0, "readyX 5;", 1, 0);
+        for (String letter : new String[] {"a", "z", "A", "Z"}) {
+            Due.faulty(x, 0, "ready" + letter + " 5;", 1, 0);
+        }
+        for (String sign : new String[] {"@", "[", "`", "{", "_", "\u00e9", "0"}) {
+            Due.faulty(x, 0, "ready" + sign + " 5;", 1, sign.equals("0") ? 7 : 5);
+        }
         Due.faulty(x, 0, "give 5", 1, 6);
         Due.faulty(x, 0, "give 5 5;", 1, 7);
         Due.faulty(x, 0, "give 12345;", 1, 5);
