@@ -782,7 +782,7 @@ public final class TwelveChain {
 
         /** How many from the next BRIDGED one below to the next one above: for a BRIDGED one these are both PARTS. */
         int lacks(int i) {
-            if (i < 0 || i >= count) {
+            if (i < 0 || i >= count || i >= MOST_LINKS) {
                 return 0;
             }
             int lacking = 1 - links[i].ready;
@@ -792,7 +792,7 @@ public final class TwelveChain {
                     break;
                 }
             }
-            for (int k = i + 1; k < count; k++) {
+            for (int k = i + 1; k < count && k < MOST_LINKS; k++) {
                 lacking += 1 - links[k].ready;
                 if (links[k].bridged != 0) {
                     break;
@@ -1124,7 +1124,7 @@ public final class TwelveChain {
         void scan() {
             int count = 0;
             int behind = 0;
-            for (int at = 0; at < length; at++) {
+            for (int at = 0; at < length && at < MOST_BYTES; at++) {
                 int c = bytes[at];
                 if (at >= behind && c != 32 && c != 10) {
                     places[count] = at;
@@ -1151,7 +1151,7 @@ public final class TwelveChain {
         /** This and the next two: where the token ends. */
         int takeWord(int index, int from) {
             int to = from + 1;
-            while (to < length && isLetter(bytes[to])) {
+            while (to < length && to < MOST_BYTES && isLetter(bytes[to])) {
                 to++;
             }
             tokens[index] = wordOf(from, to);
@@ -1161,7 +1161,7 @@ public final class TwelveChain {
         int takeNumber(int index, int from) {
             int number = 0;
             int to = from;
-            while (to < length && isDigit(bytes[to])) {
+            while (to < length && to < MOST_BYTES && isDigit(bytes[to])) {
                 number = number * 10 + bytes[to] - '0';
                 to++;
             }

@@ -29,6 +29,7 @@ public final class LanguageTest {
             Due.so(call + " is in the list", call.matches("System\\.arraycopy|Math\\.(min|max|floorDiv)|Integer\\.bitCount"));
         }
         methods(bare);
+        made(bare);
         Due.end("LanguageTest");
     }
 
@@ -46,6 +47,17 @@ public final class LanguageTest {
             } else if (start >= 0 && lines[i].equals(indent + "}")) {
                 Due.so(lines[start] + " has sixty lines at most", i - start < 60);
                 start = -1;
+            }
+        }
+    }
+
+    /** All calls of a run live in one room: what is made is made with the object, and used again. */
+    private static void made(String bare) {
+        for (String line : bare.split("\n")) {
+            if (line.matches(".*\\bnew\\b.*") || line.matches(".*\\.clone\\(.*")) {
+                boolean field = line.matches(" {4,8}(private )?final [\\w\\[\\]]+ \\w+ = new [^;]*;");
+                boolean inConstructor = line.matches(" +(links\\[i\\] = new Link\\(\\)|before\\[i\\] = new Chain\\(false\\));");
+                Due.so("made with the object:" + line, field || inConstructor);
             }
         }
     }
