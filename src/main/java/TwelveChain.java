@@ -1301,7 +1301,7 @@ public final class TwelveChain {
         }
 
         /** B: conditions joined by and, these joined by or; calls itself MOST_OPEN deep at most. */
-        boolean conditions() {
+        private boolean conditions() {
             boolean someBefore = false;
             boolean oneBefore = false;
             for (int i = 0; i < MOST_BYTES; i++) {
@@ -1326,7 +1326,7 @@ public final class TwelveChain {
             return false;
         }
 
-        boolean condition() {
+        private boolean condition() {
             int first = token;
             if (first == NOT || first == '(') {
                 if (open >= MOST_OPEN) {

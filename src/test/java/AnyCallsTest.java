@@ -11,7 +11,7 @@ public final class AnyCallsTest {
     private static Random r;
 
     public static void main(String[] args) {
-        for (int run = 0; run < 400; run++) {
+        for (int run = 0; run < 1500; run++) {
             r = new Random(run);
             TwelveChain x = new TwelveChain();
             int links = r.nextInt(14);

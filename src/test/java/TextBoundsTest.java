@@ -161,6 +161,16 @@ public final class TextBoundsTest {
                 Due.is("the first " + n + " bytes: place", x.fault(1), cutWord ? n < 4 ? 0 : 11 : n);
             }
         }
+        // a fifth digit that was cut off is no digit of it any more, nor a letter of a word
+        TwelveChain cut = chain(1);
+        Due.put(cut, "give 12345;");
+        cut.end(9);
+        Due.is("the fifth digit is cut off", cut.text(0), -1);
+        Due.is("its fault is at the end", cut.fault(1), 9);
+        Due.put(cut, "give 1 when 1=1 andlink=0;");
+        cut.end(19);
+        Due.is("the letters behind and are cut off", cut.text(0), -1);
+        Due.is("their fault is at the end", cut.fault(1), 19);
         // what comes behind an end() stands where it was cut, and what was cut is gone
         TwelveChain x = chain(1);
         Due.put(x, "cost 9;cost 8;");

@@ -287,6 +287,11 @@ public final class ThoughtBoundsTest {
         Due.is("one for 4 or two for 4: the fewest", x.bridges(1, bound, 1), 1 << 5);
         Due.told(x, 0, "ready 900;cost 4 when link=5 or link=6;cost 2 when link=3 or link=8;cost 9;", 4);
         Due.is("the least set of one", x.bridges(1, bound, 1), 1 << 5);
+        // three that cost least, though two would do for more, ahead of them and behind
+        TwelveChain y = chain(9);
+        Due.told(y, 0, "ready 900;cost 1 when link=1 or link=4 or link=5;cost 9;", 3);
+        Due.is("three for 3 or two for 10 or 18", y.bridges(1, power(each, 4), 1), 2 + 16 + 32);
+        Due.is("three for 3: sum", y.bridges(1, power(each, 4), 0), 3);
     }
 
     private static int leastSet(int links, int longest, int fewest) {
@@ -509,6 +514,13 @@ public final class ThoughtBoundsTest {
         Due.is("one is late", x.signs(0), 210);
         for (int i = 0; i < 4; i++) {
             Due.is("order before the late one " + i, x.signs(10 + i), late[i]);
+        }
+        // with 0 first, 1 could begin in time or 2 end in time, but not both
+        Due.told(x, 2, "link 0 from 4 to 240;link 1 from 20 to 30;link 2 from 0 to 35;link 3 from 40 to 50;", 4);
+        int[] tight = {2, 0, 1, 3};
+        Due.is("the minute of the last one", x.signs(0), 50);
+        for (int i = 0; i < 4; i++) {
+            Due.is("order where 0 can't be first " + i, x.signs(10 + i), tight[i]);
         }
         // who must wait may still be the lesser one: 0 from 5 on, and the rest ends at 50 all the same
         Due.told(x, 2, "link 0 from 5 to 240;link 3 from 40 to 240;", 2);
